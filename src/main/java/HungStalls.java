@@ -1193,19 +1193,16 @@ public final class HungStalls {
     }
 
     private static class Table extends Stall {
-        @Override
         int kindTold() {
             return TABLE;
         }
 
-        @Override
         int size(Trace trace) {
             trace.leave(11);
             int lent = super.size(trace);
             return lent + mark(trace);
         }
 
-        @Override
         int mark(Trace trace) {
             trace.leave(21);
             return super.mark(trace) + weight();
@@ -1213,23 +1210,19 @@ public final class HungStalls {
     }
 
     private static final class Jeweller extends Table {
-        @Override
         int kindTold() {
             return JEWELLER;
         }
 
-        @Override
         int wares() {
             return goods / 2;
         }
 
-        @Override
         int size(Trace trace) {
             trace.leave(12);
             return -super.size(trace);
         }
 
-        @Override
         int mark(Trace trace) {
             trace.leave(24);
             return 2 * super.mark(trace);
@@ -1237,17 +1230,14 @@ public final class HungStalls {
     }
 
     private static final class Butcher extends Table {
-        @Override
         int kindTold() {
             return BUTCHER;
         }
 
-        @Override
         int wares() {
             return 2 * goods;
         }
 
-        @Override
         int mark(Trace trace) {
             trace.leave(22);
             return super.mark(trace) - 1000;
@@ -1255,23 +1245,19 @@ public final class HungStalls {
     }
 
     private static class Notary extends Stall {
-        @Override
         int kindTold() {
             return NOTARY;
         }
 
-        @Override
         int buyersThatCount() {
             return 0;
         }
 
-        @Override
         int size(Trace trace) {
             trace.leave(13);
             return super.size(trace) - 100;
         }
 
-        @Override
         int mark(Trace trace) {
             trace.leave(23);
             int lent = super.mark(trace);
@@ -1280,17 +1266,14 @@ public final class HungStalls {
     }
 
     private static final class Vulture extends Notary {
-        @Override
         int kindTold() {
             return VULTURE;
         }
 
-        @Override
         int wares() {
             return -goods;
         }
 
-        @Override
         int size(Trace trace) {
             trace.leave(14);
             return 2 * super.size(trace);

@@ -77,6 +77,9 @@ public final class ForetoldTest {
         x = Due.told("m99,0;l20;l20;t0,4,0;t1,4,11;");
         DUE.is("9 are too few", x.even(0, 1, 0), Due.NONE);
         DUE.is("9 are too few", x.even(0, 1, 1), Due.NONE);
+        x = Due.told("m99,20;l18;l1;t0,8,14;v1,8,7;b0,4,13;");
+        DUE.is("18 are enough", x.even(0, 1, 0), 18);
+        DUE.is("18 are enough", x.even(0, 1, 1), 9);
         x = Due.told("m99,0;l20;l20;n0,4,0;t1,4,14;");
         for (int i = 0; i < 4; i++) {
             x.girl(0, 1);
@@ -285,8 +288,7 @@ public final class ForetoldTest {
         x.girl(0, 1);
         DUE.is("40 do", x.holds(0), 40);
         x = Due.told("m19,0;l20;b0,4,20;");
-        x.girl(0, 1);
-        DUE.is("40 do not", x.holds(0), Due.NONE);
+        DUE.is("only 41 would do", x.holds(0), Due.NONE);
         x = Due.told("m4,0;l20;l20;t0,4,0;t1,4,1;v1,5,20;");
         DUE.is("a rope that lifts", x.holds(0), 1);
         DUE.is("where a lifted neighbour falls", x.holds(1), 16);
