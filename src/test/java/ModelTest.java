@@ -149,7 +149,7 @@ public final class ModelTest {
         for (int n = random.nextInt(5) == 0 ? 1 + random.nextInt(2) : 0; n > 0; n--) {
             spoil(bytes);
         }
-        while (bytes.size() + calls > CALLS - 201) {
+        if (bytes.size() + calls > CALLS - 201) {
             return;
         }
         for (int b : bytes) {

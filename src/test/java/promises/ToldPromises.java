@@ -403,6 +403,42 @@ final class ToldPromises {
         x.is(STATE, "undo()").is(5, "stall(0, 3)").is(0, "stall(0, 4)", "count(4)");
     }
 
+    static void theOldestIsForgottenOfActsOfMany(Due due) {
+        due.says(9, "of more the oldest is forgotten;");
+        Run x = Run.told(due, "m5,0;l4;l20;l20;t0,2,6;t1,2,6;v2,2,6;").does("rain()", "cut(0)", "unload(2, 1)");
+        String[] acts = {"buyers(0, 3)", "girl(1, 1)", "cut(2)", "slide(2, 7)", "unload(1, 1)", "cut(1)", "slide(0, 8)", "rain()",
+            "buyers(1, 9)", "girl(0, 1)", "cut(1)", "slide(2, 1)", "unload(0, 1)", "cut(2)", "slide(1, 8)", "rain()",
+            "buyers(2, 4)", "girl(1, -1)", "cut(2)", "slide(2, 5)", "unload(1, 0)", "cut(1)", "slide(0, 1)", "buyers(0, 0)"};
+        String[] looks = {"stall(0, 3)", "stall(1, 4)", "rope(2, 1, 2)", "stall(2, 1)", "stall(1, 5)", "rope(1, 1, 2)", "stall(0, 1)", "count(4)"};
+        int[] before = new int[acts.length];
+        for (int i = 0; i < acts.length; i++) {
+            before[i] = x.answer(lookFor(acts[i]));
+            x.does(acts[i]);
+        }
+        x.is(24, "count(5)");
+        for (int i = acts.length - 1; i >= 0; i--) {
+            x.is(i, "undo()").is(before[i], lookFor(acts[i]));
+        }
+        int[] left = {0, 0, 20, 2, 0, 20, 2, 1};
+        for (int i = 0; i < looks.length; i++) {
+            x.is(left[i], looks[i]);
+        }
+        x.is(STATE, "undo()").is(3, "rope(0, 1, 2)").is(1, "stall(2, 5)");
+    }
+
+    /** The call that tells what an act changes. */
+    private static String lookFor(String act) {
+        String one = act.replaceAll("\\w+\\((-?\\d*).*", "$1");
+        switch (act.charAt(0)) {
+            case 'b': return "stall(" + one + ", 3)";
+            case 'g': return "stall(" + one + ", 4)";
+            case 's': return "stall(" + one + ", 1)";
+            case 'u': return "stall(" + one + ", 5)";
+            case 'c': return "rope(" + one + ", 1, 2)";
+            default: return "count(4)";
+        }
+    }
+
     static void exactly24ActsCanAllBeUndone(Due due) {
         due.says(9, "24 at most are kept");
         Run x = Run.told(due, "m5,0;l4;t0,2,6;").times(24, "rain()").is(24, "count(5)", "count(4)");
